@@ -25,6 +25,7 @@ public final class SpineDesks {
     private static final int ROUND_ON_PAPER = 60;
     private static final int ENDLESS = 10_000_000;
     private static final long NO_LONG = Long.MIN_VALUE;
+    private static final long NO_TREE = Long.MAX_VALUE;
 
     private static final int WRONG = -1;
     private static final int UNKNOWN = -2;
@@ -498,7 +499,7 @@ public final class SpineDesks {
             return NONE;
         }
         search.seek(root, NONE, NONE);
-        if (search.next == Search.NO_TREE) {
+        if (search.next == NO_TREE) {
             return NONE;
         }
         return what == 0 ? search.costOf(search.next) : search.bitsOf(search.next);
@@ -668,8 +669,9 @@ public final class SpineDesks {
             return x >= 0 && x < came && deskOf[x] != NONE;
         }
 
-        boolean isPlain(int x) {
-            return deskOf[x] != NONE && crossed[x] == 0;
+        /** The ITEM came, and is in the DESK, not CROSSED. */
+        boolean isPlainIn(int x, int desk) {
+            return deskOf[x] == desk && crossed[x] == 0;
         }
 
         boolean isLess(int a, int b) {
@@ -856,7 +858,7 @@ public final class SpineDesks {
         int plainIn(int desk) {
             int n = 0;
             for (int x = 0; x < came; x++) {
-                n += deskOf[x] == desk && crossed[x] == 0 ? 1 : 0;
+                n += isPlainIn(x, desk) ? 1 : 0;
             }
             return n;
         }
@@ -864,7 +866,7 @@ public final class SpineDesks {
         int plainLess(int desk, int item) {
             int n = 0;
             for (int x = 0; x < came; x++) {
-                n += deskOf[x] == desk && crossed[x] == 0 && isLess(x, item) ? 1 : 0;
+                n += isPlainIn(x, desk) && isLess(x, item) ? 1 : 0;
             }
             return n;
         }
@@ -872,7 +874,7 @@ public final class SpineDesks {
         int plainBelow(int desk, long limit) {
             int n = 0;
             for (int x = 0; x < came; x++) {
-                n += deskOf[x] == desk && crossed[x] == 0 && keyOf[x] < limit ? 1 : 0;
+                n += isPlainIn(x, desk) && keyOf[x] < limit ? 1 : 0;
             }
             return n;
         }
@@ -880,7 +882,7 @@ public final class SpineDesks {
         int plainWithTag(int desk, int tag) {
             int n = 0;
             for (int x = 0; x < came; x++) {
-                n += deskOf[x] == desk && crossed[x] == 0 && tagOf[x] == tag ? 1 : 0;
+                n += isPlainIn(x, desk) && tagOf[x] == tag ? 1 : 0;
             }
             return n;
         }
@@ -904,7 +906,7 @@ public final class SpineDesks {
         int plainThere() {
             int n = 0;
             for (int x = 0; x < came; x++) {
-                n += isPlain(x) ? 1 : 0;
+                n += deskOf[x] != NONE && crossed[x] == 0 ? 1 : 0;
             }
             return n;
         }
@@ -1027,7 +1029,7 @@ public final class SpineDesks {
         private int sortInto(int[] row, int desk) {
             int n = 0;
             for (int x = 0; x < hall.came; x++) {
-                if (hall.deskOf[x] == desk && hall.crossed[x] == 0) {
+                if (hall.isPlainIn(x, desk)) {
                     row[n++] = x;
                 }
             }
@@ -1043,7 +1045,7 @@ public final class SpineDesks {
         long sumOfKeys(int desk) {
             long sum = 0;
             for (int x = 0; x < hall.came; x++) {
-                sum += hall.deskOf[x] == desk && hall.crossed[x] == 0 ? hall.keyOf[x] : 0;
+                sum += hall.isPlainIn(x, desk) ? hall.keyOf[x] : 0;
             }
             return sum;
         }
@@ -1235,8 +1237,6 @@ public final class SpineDesks {
      * is tried. COST and bits stand in one number (COST * 2^20 + bits): the least is the BEST.
      */
     private static final class Search {
-        static final long NO_TREE = Long.MAX_VALUE;
-
         final Net net;
         final int[] into;
         int root;
