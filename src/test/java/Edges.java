@@ -140,7 +140,7 @@ final class Edges {
         return out.toString();
     }
 
-    /** All that can be seen of desks, items, log and arcs. */
+    /** All that can be seen of desks, items, log and arcs; these questions come beside the run's calls, which the class bears. */
     static String seen(SpineDesks x) {
         StringBuilder out = new StringBuilder();
         for (int i = 0; i < x.count(0); i++) out.append(seenItem(x, i)).append('\n');

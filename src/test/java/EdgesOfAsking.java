@@ -33,10 +33,22 @@ final class EdgesOfAsking {
             "item(0, 4) = 1; item(0, 5) = 2; desk(0, 0) = 0; desk(4, 0) = -1");
         edge(18, kept, "what is done later does not change what is kept", with(1, 2), "keep(0) = true; cut(1) = 1; again(0) = true; cut(0) = 1",
             "again(0) = true; count(1) = 2");
+        edge(18, kept, "who is above whom", with(3, 2, 1), "keep(0) = true; rekey(0, 0) = 0; item(1, 6) = 2; above(2, 0) = 0; again(0) = true",
+            "item(0, 6) = 1",
+            "item(1, 6) = 2; item(2, 6) = -1; item(0, 7) = 2; above(0, 1) = 2");
+        edge(18, kept, "tags, though a number was given to another item", "keep(0) = true; enter(0, 1, 5) = 0; keep(1) = true; again(0) = true",
+            "enter(0, 1, 6) = 0; again(1) = true; item(0, 0) = 5; tagged(6, 0) = -1");
+        edge(18, kept, "all 300", chain(300), "keep(1) = true; cut(0) = 299; cut(299) = 298; raise(0, 9) = 298; again(1) = true; count(1) = 300",
+            "item(0, 7) = 299",
+            "key(299) = -299; desk(0, 0) = 299; least(0, 299) = 0");
         edge(18, KEEPS, "the log", with(1, 2), "take(0) = 0; keep(0) = true; take(0) = 1; again(0) = true; count(6) = 1; log(0, 0) = 0",
             "log(1, 0) = none");
         edge(18, KEEPS, "a log that was full", Edges.each(45, "enter(0, #, 0) = #"), Edges.each(41, "take(0) = #"),
             "keep(0) = true; take(0) = 41; take(0) = 42; again(0) = true; count(6) = 40; log(0, 0) = 40; log(39, 0) = 1; log(40, 0) = none");
+        edge(18, KEEPS, "keys and desks in the log, though others were logged there", "keep(0) = true; enter(2, 1, 0) = 0; take(2) = 0",
+            "keep(1) = true",
+            "again(0) = true; enter(3, 9, 0) = 0; take(3) = 0; log(0, 1) = 9; log(0, 2) = 3; again(1) = true; log(0, 1) = 1; log(0, 2) = 2",
+            "count(6) = 1");
         edge(18, KEEPS, "the turn", "round(4) = 0; keep(0) = true; round(1) = 0; again(0) = true; count(5) = 4");
         edge(18, KEEPS, "the arcs", "arc(0, 1, 5) = 0; arc(1, 2, 6) = 1; keep(0) = true; unarc(0) = 1; price(1, 9) = 6; arc(3, 4, 7) = 0",
             "again(0) = true",
@@ -61,6 +73,9 @@ final class EdgesOfAsking {
         edge(19, all, "at once", with(1, 2), "keep(0) = true; again(0) = true; count(1) = 2; count(0) = 2");
         edge(19, all, "how many came, so the next number is the one of then", with(1), "keep(0) = true; enter(0, 5, 0) = 1; enter(0, 6, 0) = 2",
             "again(0) = true; count(0) = 1; key(1) throws; enter(0, 7, 0) = 1; key(1) = 7");
+        edge(19, all, "a number given again is of a new item, not crossed", with(1), "keep(0) = true; enter(0, 5, 9) = 1; cross(1) = 1",
+            "again(0) = true",
+            "enter(0, 5, 8) = 1; item(1, 2) = 0; item(1, 0) = 8; desk(0, 1) = 2");
         edge(19, all, "room is as it was", Edges.times(299, i -> "enter(" + i % 6 + ", 0, 0) = " + i), "keep(0) = true; enter(0, 0, 0) = 299",
             "enter(0, 0, 0) = -5; again(0) = true; enter(0, 0, 0) = 299; enter(0, 0, 0) = -5");
         edge(19, no, "nothing kept", with(1), "take(0) = 0; again(0) = false; again(1) = false; count(1) = 0; count(8) = 0; count(9) = 0");
@@ -116,6 +131,10 @@ final class EdgesOfAsking {
         edge(22, "the most ITEMS one above another (4)", "none, one, a chain, both sides", "desk(0, 4) = 0", with(5), "desk(0, 4) = 1",
             "enter(0, 4, 0) = 1; desk(0, 4) = 2; enter(0, 3, 0) = 2; desk(0, 4) = 3; enter(0, 9, 0) = 3; desk(0, 4) = 3");
         edge(22, "the most ITEMS one above another (4)", "as many as there can be", chain(300), "desk(0, 4) = 300; desk(0, 3) = 1; desk(0, 5) = 1");
+        edge(22, "ITEMS that are not CROSSED (1), CROSSED ones (2)", "all 300", chain(300), "desk(0, 1) = 300; desk(0, 2) = 0; cross(7) = 299",
+            "desk(0, 2) = 1");
+        edge(22, "ITEMS whose LEFT and RIGHT are of like RANK (6)", "of 300 the last alone", chain(300), "desk(0, 6) = 1; desk(0, 7) = 1",
+            "desk(0, 8) = 0");
         edge(22, "how many ITEMS there are along RIGHT ones from the root on, it too (5)", "none, one, two", "desk(0, 5) = 0", with(1, 2),
             "desk(0, 5) = 1; enter(0, 3, 0) = 2; desk(0, 5) = 2; cross(2) = 2; desk(0, 5) = 2");
         edge(22, "ITEMS whose LEFT and RIGHT are of like RANK (6)", "none; one without both; a left alone; both", "desk(0, 6) = 0", with(1),
@@ -124,7 +143,14 @@ final class EdgesOfAsking {
             "enter(0, 2, 0) = 1; desk(0, 7) = 1; enter(0, 3, 0) = 2; desk(0, 7) = 2; cross(1) = 2; desk(0, 7) = 2");
         edge(22, "ITEMS whose RIGHT has more ITEMS than its LEFT (8)", "as many: not; one more: it is", "desk(0, 8) = 0", with(1, 2, 3),
             "desk(0, 8) = 0; enter(0, 4, 0) = 3; desk(0, 8) = 1; cross(3) = 3; desk(0, 8) = 1");
+        // 1 over 2 (5, 6) and 3 (4)
+        edge(22, "ITEMS whose RIGHT has more ITEMS than its LEFT (8)", "the left has one more", with(5, 2, 6, 1, 3, 4), "item(3, 4) = 1",
+            "item(3, 5) = 4; desk(0, 8) = 0");
+        // 1 over 5 (7, 8) and 2, 3, 4, 6, one above another
+        edge(22, "ITEMS whose RIGHT has more ITEMS than its LEFT (8)", "three and four", with(5, 7, 8, 1, 6, 4, 3, 2), "item(3, 4) = 0",
+            "item(3, 5) = 7; desk(0, 8) = 1");
         edge(22, "NONE: others.", "a desk too small", with(1), "desk(-1, 1) = -1; desk(MIN, 0) = -1; desk(-1, -1) = -1");
+        edge(22, "NONE: others.", "desk -1, while some are gone", with(1, 2, 3), "take(0) = 0; cut(1) = 1", Edges.each(9, "desk(-1, #) = -1"));
         edge(22, "NONE: others.", "a desk too large", with(1), "desk(6, 1) = -1; desk(MAX, 0) = -1; desk(6, 9) = -1");
         edge(22, "NONE: others.", "what -1", with(1), "desk(0, -1) = -1; desk(0, MIN) = -1");
         edge(22, "NONE: others.", "what 9", with(1), "desk(0, 9) = -1; desk(0, MAX) = -1; count(8) = 0");
@@ -152,9 +178,11 @@ final class EdgesOfAsking {
         edge(24, told, "an empty desk", with(1), "ranked(1, 1) = 0; ranked(5, 1) = 0");
         edge(24, told, "crossed ones are told, those of other desks not", with(1, 2, 3), "enter(1, 1, 0) = 3; cross(1) = 2; ranked(0, 1) = 2",
             "ranked(1, 1) = 1");
+        edge(24, told, "all 300", chain(300), "ranked(0, 1) = 300; ranked(0, 2) = 0");
         edge(24, told, "those that are gone are not", with(1, 2, 3), "cut(1) = 2; ranked(0, 1) = 2; ranked(0, 2) = 0; take(0) = 0; ranked(0, 1) = 1");
         edge(24, none, "rank 0 and below", with(1), "ranked(0, 0) = -1; ranked(0, -1) = -1; ranked(0, MIN) = -1; ranked(1, 0) = -1");
         edge(24, none, "another desk", with(1), "ranked(-1, 1) = -1; ranked(6, 1) = -1; ranked(MIN, 1) = -1; ranked(MAX, 1) = -1");
+        edge(24, none, "desk -1, while some are gone", with(1, 2, 3), "take(0) = 0; cut(1) = 1; ranked(-1, 1) = -1");
     }
 
     private static void least() {
@@ -166,7 +194,12 @@ final class EdgesOfAsking {
         edge(25, "NONE.", "k below 0", with(1), "least(0, -1) = -1; least(0, MIN) = -1");
         edge(25, "NONE.", "an empty desk", with(1), "least(1, 0) = -1");
         edge(25, "NONE.", "another desk", with(1), "least(-1, 0) = -1; least(6, 0) = -1; least(MIN, 0) = -1; least(MAX, 0) = -1");
+        edge(25, "NONE.", "desk -1, while some are gone", with(1, 2, 3), "take(0) = 0; cut(1) = 1; least(-1, 0) = -1");
         edge(25, told, "the last of 300", chain(300), "least(0, 299) = 0; least(0, 0) = 299; least(0, 300) = -1");
+        edge(25, told, "of nine that came in no order", with(5, 9, 1, 7, 3, 8, 2, 6, 4), "least(0, 0) = 2; least(0, 1) = 6; least(0, 2) = 4",
+            "least(0, 3) = 8; least(0, 4) = 0",
+            "least(0, 5) = 7; least(0, 6) = 3; least(0, 7) = 5; least(0, 8) = 1; least(0, 9) = -1");
+        edge(25, told, "of four that came in no order", with(3, 1, 4, 2), "least(0, 0) = 1; least(0, 1) = 3; least(0, 2) = 0; least(0, 3) = 2");
     }
 
     private static void below() {
@@ -177,9 +210,11 @@ final class EdgesOfAsking {
         edge(26, told, "a number beyond int", with(1), "below(0, 4294967296) = 1; below(0, -4294967296) = 0; below(0, 4294967297) = 1",
             "below(0, -4294967290) = 0");
         edge(26, told, "crossed ones are not told", with(1, 2, 3), "cross(1) = 2; below(0, 9) = 2");
+        edge(26, told, "all 300", chain(300), "below(0, 1) = 300; below(0, 0) = 299");
         edge(26, told, "an empty desk", "below(0, MOST) = 0; below(5, 0) = 0");
         edge(26, "NONE: another DESK.", "too small, too large", with(1), "below(-1, 0) = -1; below(6, 0) = -1; below(MIN, 0) = -1",
             "below(MAX, 0) = -1");
+        edge(26, "NONE: another DESK.", "desk -1, while some are gone", with(1, 2, 3), "take(0) = 0; cut(1) = 1; below(-1, 9) = -1");
     }
 
     private static void keys() {
@@ -192,6 +227,7 @@ final class EdgesOfAsking {
         edge(27, told, "a sum beyond int", Edges.each(300, "enter(2, 1000000000, 0) = #"), "keys(2, 0) = 300000000000; keys(2, 3) = 1",
             "keys(2, 2) = 0");
         edge(27, told, "a sum beyond int, below 0", Edges.each(300, "enter(2, -1000000000, 0) = #"), "keys(2, 0) = -300000000000");
+        edge(27, told, "300 different ones", chain(300), "keys(0, 0) = -44850; keys(0, 1) = 0; keys(0, 2) = 1; keys(0, 3) = 300");
         edge(27, told, "the greatest gap that enter() makes, and a greater one by raise()", with(-1000000000, 1000000000), "keys(0, 2) = 2000000000",
             "enter(1, 1000000000, 0) = 2",
             Edges.each(150, "raise(1, 1000000) = 1"), "meld(0, 1) = 1; cut(1) = 2; keys(0, 2) = 2150000000");
@@ -202,6 +238,7 @@ final class EdgesOfAsking {
         edge(27, none, "what -1, 4", with(1, 2), "keys(0, -1) = none; keys(0, 4) = none; keys(0, MIN) = none; keys(0, MAX) = none");
         edge(27, none, "another desk", with(1, 2), "keys(-1, 0) = none; keys(6, 0) = none; keys(-1, 3) = none; keys(6, 3) = none",
             "keys(MIN, 0) = none; keys(MAX, 0) = none");
+        edge(27, none, "desk -1, while some are gone", with(1, 2, 3), "take(0) = 0; cut(1) = 1", Edges.each(4, "keys(-1, #) = none"));
         edge(27, "keys(0), (3) of an empty DESK: 0.", "what 0, what 3", "keys(0, 0) = 0; keys(0, 3) = 0; keys(5, 0) = 0; keys(5, 3) = 0");
     }
 
@@ -240,6 +277,8 @@ final class EdgesOfAsking {
             "pair(0, 0, 0, MAX) = none");
         edge(28, none, "another desk", with(1), "pair(-1, 0, 0, 0) = none; pair(6, 0, 0, 0) = none; pair(0, -1, 0, 0) = none",
             "pair(0, 6, 0, 0) = none; pair(MIN, 0, 0, 0) = none; pair(0, MAX, 0, 0) = none");
+        edge(28, none, "another desk, while some are gone", with(1, 2, 3), "take(0) = 0; cut(1) = 1; pair(-1, 0, 0, 0) = none",
+            "pair(0, -1, 0, 0) = none; pair(-1, -1, 0, 0) = none");
     }
 
     private static void above() {
@@ -316,6 +355,7 @@ final class EdgesOfAsking {
         edge(33, told, "one each: the first that has one", tags, "cross(2) = 1; cross(4) = 1; tagged(99, 0) = 1; tagged(99, 1) = 1");
         edge(33, told, "the least and the greatest tag", "enter(5, 1, 0) = 0; enter(4, 1, 99) = 1; tagged(0, 0) = 5; tagged(0, 1) = 1",
             "tagged(99, 0) = 4; tagged(99, 1) = 1");
+        edge(33, told, "all 300", chain(300), "tagged(0, 0) = 0; tagged(0, 1) = 300");
         edge(33, none, "no item has it", tags, "tagged(98, 0) = -1; tagged(98, 1) = -1; tagged(0, 0) = -1");
         edge(33, none, "one that is gone had it", "enter(0, 1, 7) = 0; tagged(7, 0) = 0; take(0) = 0; tagged(7, 0) = -1; tagged(7, 1) = -1");
         edge(33, none, "only a crossed one has it", "enter(0, 1, 6) = 0; enter(0, 2, 7) = 1; cross(1) = 1; tagged(7, 0) = -1; tagged(7, 1) = -1");

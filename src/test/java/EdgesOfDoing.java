@@ -23,6 +23,11 @@ final class EdgesOfDoing {
         return Edges.times(300, i -> "enter(" + i % 6 + ", " + i + ", 0) = " + i);
     }
 
+    /** All 300 ITEMS, in DESK 0: a chain of lefts, the last that came at its root. */
+    private static String chain() {
+        return Edges.times(300, i -> "enter(0, " + -i + ", 0) = " + i);
+    }
+
     private static void newObject() {
         String words = "No ITEMS, no ARCS.";
         edge(1, words, "no item came, is there", "count(0) = 0; count(1) = 0; count(2) = 0; key(0) throws; item(0, 0) throws; above(0, 0) throws");
@@ -30,7 +35,8 @@ final class EdgesOfDoing {
         edge(1, words, "each desk is empty", Edges.each(6, "desk(#, 0) = -1; desk(#, 1) = 0; desk(#, 2) = 0; desk(#, 3) = 0; desk(#, 4) = 0"),
             Edges.each(6, "desk(#, 5) = 0; desk(#, 6) = 0; desk(#, 7) = 0; desk(#, 8) = 0; take(#) = -3"));
         edge(1, words, "no arc is there", "count(3) = 0", Edges.each(20, "arcs(#, 0) = -1; unarc(#) = -2"));
-        edge(1, words, "a place reaches itself alone", Edges.each(8, "best(#, 0) = 0; best(#, 1) = 0"), Edges.times(8, p -> "best(" + p + ", 2) = " + (1 << p)));
+        edge(1, words, "a place reaches itself alone", Edges.each(8, "best(#, 0) = 0; best(#, 1) = 0"),
+            Edges.times(8, p -> "best(" + p + ", 2) = " + (1 << p)));
         edge(1, words, "nothing counted, logged, kept", Edges.times(9, i -> "count(" + (i + 4) + ") = 0"),
             "log(0, 0) = none; again(0) = false; again(1) = false; coming(0) = -1");
         edge(1, "The constants: `NONE = -1`: There is none.", "the root of an empty desk", "desk(0, 0) = " + SpineDesks.NONE + "; desk(0, 0) = -1");
@@ -103,10 +109,15 @@ final class EdgesOfDoing {
             "count(7) = 3; count(1) = 1");
         edge(3, LOOK, "all that is left is crossed", with(1, 2, 3), "cross(1) = 2; cross(2) = 1; take(0) = 0; desk(0, 0) = -1; count(7) = 2",
             "count(1) = 0; take(0) = -3");
+        edge(3, LOOK, "199, one behind another", Edges.each(200, "enter(1, #, 0) = #"),
+            Edges.times(199, i -> "cross(" + (199 - i) + ") = " + (199 - i)),
+            "count(7) = 0; take(1) = 0; count(7) = 199; count(1) = 0; desk(1, 0) = -1");
         edge(3, LOOK, "one that is not at the root stays", with(1, 2, 3, 4), "cross(3) = 3; take(0) = 0; count(7) = 0; item(3, 2) = 1");
         edge(3, "TAKEN: the root goes, the TREE is MELD of its LEFT, its RIGHT.", "both, one, none of them", with(1, 2, 3),
             "count(4) = 2; take(0) = 0; count(4) = 3; desk(0, 0) = 1; item(1, 4) = 2; take(0) = 1; count(4) = 3; take(0) = 2; count(4) = 3",
             "desk(0, 3) = 0");
+        edge(3, "TAKEN: the root goes, the TREE is MELD of its LEFT, its RIGHT.", "what comes to the root has none above it", with(1, 2),
+            "item(1, 6) = 0; take(0) = 0; item(1, 6) = -1; item(1, 7) = 0; above(1, 0) = -1");
     }
 
     private static void round() {
@@ -139,6 +150,7 @@ final class EdgesOfDoing {
         edge(5, crossed, "the only one of a desk", with(1), "cross(0) = 0; count(7) = 1; desk(0, 0) = -1; key(0) throws");
         edge(5, crossed, "of its own desk alone", "enter(0, 1, 0) = 0; enter(1, 1, 0) = 1; enter(1, 2, 0) = 2; cross(2) = 1; desk(1, 2) = 1",
             "count(2) = 2");
+        edge(5, crossed, "one of 300", chain(), "cross(0) = 299; cross(150) = 298; item(0, 2) = 1; desk(0, 2) = 2");
         edge(5, "CROSSED out: an ITEM stays where it is", "below the root", with(1, 2, 3), "cross(2) = 2; item(2, 2) = 1; item(0, 5) = 2",
             "item(2, 6) = 0; count(4) = 2; count(7) = 0");
         edge(5, LOOK, "the root", with(1, 2, 3), "cross(0) = 2; count(7) = 1; desk(0, 0) = 1; count(4) = 3; count(6) = 0");
@@ -187,6 +199,8 @@ final class EdgesOfDoing {
         edge(7, isCut, "the root", with(1, 2, 3), "cut(0) = 2; desk(0, 0) = 1; count(4) = 3; item(1, 6) = -1");
         edge(7, isCut, "one without left, right", with(1, 2, 3), "cut(2) = 2; item(0, 5) = -1; count(4) = 2");
         edge(7, isCut, "of its own desk alone", "enter(0, 1, 0) = 0; enter(1, 1, 0) = 1; enter(1, 2, 0) = 2; cut(2) = 1");
+        edge(7, isCut, "one of 300", chain(), "cut(0) = 299; cut(150) = 298; item(149, 6) = 151; cut(299) = 297; desk(0, 0) = 298",
+            "item(298, 6) = -1");
         edge(7, isCut, "it is not logged, nor gone as a crossed one", with(1, 2), "cross(1) = 1; cut(1) = 1; cut(0) = 0; count(6) = 0; count(7) = 0");
         edge(7, "MELD of its LEFT, its RIGHT comes in its place", "one with both", with(1, 2, 3, 4, 5),
             "item(2, 4) = 3; item(2, 5) = 4; item(2, 6) = 0; cut(2) = 4; item(3, 6) = 0; item(3, 4) = 4; item(4, 6) = 3; count(4) = 7");
@@ -213,6 +227,7 @@ final class EdgesOfDoing {
         edge(8, told, "the least key", with(1, 2), "rekey(1, -1000000000) = 0; key(1) = -1000000000; desk(0, 0) = 1");
         edge(8, told, "the greatest key", with(1, 2), "rekey(0, 1000000000) = 1; key(0) = 1000000000; desk(0, 0) = 1");
         edge(8, told, "the only one", with(1), "rekey(0, 5) = 0; desk(0, 0) = 0; count(4) = 0");
+        edge(8, told, "one of 300", chain(), "rekey(0, -1000) = 0; desk(0, 0) = 0; rekey(0, 1000) = 299; desk(0, 0) = 299");
         edge(8, told, "of like keys: the less number is less", with(10, 20), "rekey(1, 10) = 1; desk(0, 0) = 0");
         edge(8, told, "of like keys: the greater number is not", with(20, 10), "rekey(0, 10) = 0; desk(0, 0) = 0");
         edge(8, told, "crossed ones are not told", with(1, 2, 3), "cross(1) = 2; rekey(2, 9) = 1");
@@ -248,6 +263,8 @@ final class EdgesOfDoing {
         edge(9, raised, "the most", with(1), "raise(0, 1000000) = 1; key(0) = 1000001");
         edge(9, raised, "the least", with(1), "raise(0, -1000000) = 1; key(0) = -999999");
         edge(9, raised, "by 0", with(1, 2), "raise(0, 0) = 2; key(0) = 1; count(11) = 0");
+        edge(9, raised, "all 300", chain(), "raise(0, 5) = 300; key(0) = 5; key(299) = -294");
+        edge(9, raised, "one that comes later is not raised", with(1), "raise(0, 5) = 1; enter(0, 7, 0) = 1; key(1) = 7");
         edge(9, raised, "beyond what enter() takes", with(1000000000, -1000000000), "raise(0, 1000000) = 2; key(0) = 1001000000",
             "raise(0, -1000000) = 2; raise(0, -1000000) = 2; key(1) = -1001000000; keys(0, 1) = 999000000");
         edge(9, "RAISED: all KEYS of a DESK are more by as much.", "no other desk, none that is gone", with(1, 2), "enter(1, 5, 0) = 2; take(0) = 0",
@@ -271,6 +288,9 @@ final class EdgesOfDoing {
             "item(0, 4) = 1");
         edge(10, melded, "the root of the other is less", with(2), "enter(5, 1, 0) = 1; meld(0, 5) = 1; desk(0, 0) = 1; item(0, 1) = 0",
             "item(1, 1) = 0");
+        edge(10, melded, "150 and 150", Edges.times(300, i -> "enter(" + i % 2 + ", " + -i + ", 0) = " + i), "meld(0, 1) = 1; desk(0, 1) = 300",
+            "desk(1, 1) = 0",
+            "item(299, 1) = 0; item(1, 1) = 0; desk(0, 0) = 299; item(299, 5) = 298");
         edge(10, LESS, "like keys of two desks", "enter(0, 5, 0) = 0; enter(1, 5, 0) = 1; meld(1, 0) = 1; desk(1, 0) = 0; item(0, 4) = 1");
         edge(10, "MELDED: a DESK's TREE, then another one's; that one is empty.", "it is, and takes items again", with(1),
             "enter(1, 2, 0) = 1; meld(0, 1) = 1; desk(1, 0) = -1; desk(1, 1) = 0; take(1) = -3; enter(1, 3, 0) = 2; desk(1, 0) = 2; desk(0, 1) = 2");
@@ -299,6 +319,7 @@ final class EdgesOfDoing {
         String fifty = Edges.each(51, "enter(3, #, 0) = #");
         edge(11, parted, "n 1", with(1, 2), "part(0, 5, 1) = 0; item(0, 1) = 5; desk(0, 0) = 1; count(1) = 2; count(6) = 0");
         edge(11, parted, "n 50", fifty, "part(3, 2, 50) = 49; desk(3, 1) = 1; desk(2, 1) = 50; desk(3, 0) = 50");
+        edge(11, parted, "50 of 300", chain(), "part(0, 1, 50) = 250; desk(0, 1) = 250; desk(1, 1) = 50; desk(1, 0) = 299");
         edge(11, no, "-1: n 0", with(1), "part(0, 1, 0) = -1; count(8) = 1; desk(0, 1) = 1");
         edge(11, no, "-1: n 51", fifty, "part(3, 2, 51) = -1; count(8) = 1; desk(3, 1) = 51");
         edge(11, no, "-1: n far too small, too large", with(1), "part(0, 1, -1) = -1; part(0, 1, MIN) = -1; part(0, 1, MAX) = -1; count(8) = 3");
@@ -332,6 +353,9 @@ final class EdgesOfDoing {
         edge(12, told, "a key like the number goes, one more stays", with(10, 11), "split(0, 1, 10) = 1; item(0, 1) = 1; item(1, 1) = 0",
             "desk(0, 0) = 1");
         edge(12, told, "all go", with(10, 20, 30), "split(0, 5, 30) = 3; desk(0, 0) = -1; desk(5, 1) = 3; desk(0, 3) = 0");
+        edge(12, told, "all 300 go", chain(), "split(0, 1, 0) = 300; desk(0, 0) = -1; desk(1, 1) = 300; desk(1, 0) = 299");
+        edge(12, told, "one tree alone stays: it has none above it", with(1, 2), "item(1, 6) = 0; split(0, 1, 1) = 1; item(1, 6) = -1",
+            "item(1, 7) = 0; above(1, 0) = -1");
         edge(12, told, "any number: beyond all keys", with(1000000000), "raise(0, 5) = 1; split(0, 1, 1000000004) = -3; split(0, 1, 1000000005) = 1",
             "split(1, 0, MAX) = 1; split(0, 1, MIN) = -3; count(8) = 0");
         edge(12, told, "into a desk that has some", with(10, 20, 30), "enter(1, 5, 0) = 3; split(0, 1, 20) = 2; desk(1, 0) = 3; desk(1, 1) = 3",
@@ -361,6 +385,9 @@ final class EdgesOfDoing {
             "count(4) = 6; split(0, 3, 5) = 2; count(4) = 11; item(1, 4) = 5; item(1, 5) = 2; item(5, 4) = 3; item(5, 5) = 6");
         edge(12, "all others are ENTERED in another DESK one by one, the least first.", "as one by one in order of keys", with(10, 20, 5, 30),
             "split(0, 1, 20) = 3; desk(1, 0) = 2; item(2, 4) = 0; item(2, 5) = 1; desk(0, 0) = 3");
+        // by the tree 1, 3, 2 would come; by keys 1, 2, 3
+        edge(12, "all others are ENTERED in another DESK one by one, the least first.", "not as they stand in the tree", with(1, 3, 2),
+            "item(0, 4) = 1; item(0, 5) = 2; split(0, 1, 9) = 3; item(0, 4) = 2; item(0, 5) = 1");
         edge(12, LESS, "of like keys the less number is entered first", with(10, 5, 5, 5), "split(0, 1, 5) = 3; desk(1, 0) = 1; item(1, 4) = 2",
             "item(1, 5) = 3");
     }
@@ -380,6 +407,7 @@ final class EdgesOfDoing {
             "count(7) = 0");
         edge(13, one, "to another desk", with(1, 2, 3), "gather(4) = 0; desk(4, 1) = 3; desk(0, 0) = -1; item(2, 1) = 4; count(4) = 2");
         edge(13, one, "in that very desk", with(1, 2, 3), "gather(0) = 0; desk(0, 1) = 3; item(2, 1) = 0; count(4) = 2");
+        edge(13, one, "all 300", chain(), "gather(5) = 0; desk(5, 1) = 300; item(0, 1) = 5; item(299, 1) = 5; desk(0, 0) = -1");
         edge(13, rows, "two", "enter(2, 1, 0) = 0; enter(4, 2, 0) = 1; gather(4) = 1; item(0, 4) = 1");
         // 20 and 5: 5 over 20. Then 10 (that was third) and that: 5 with left 20, right 10
         edge(13, rows, "three: the third, then what the first two made", "enter(0, 20, 0) = 0; enter(2, 5, 0) = 1; enter(4, 10, 0) = 2",
@@ -400,6 +428,7 @@ final class EdgesOfDoing {
         edge(14, evened, "no items", "even() = 0; count(4) = 0");
         edge(14, evened, "all in one desk", Edges.each(12, "enter(3, #, 0) = #"), "even() = 10",
             Edges.each(6, "desk(#, 1) = 2"), "even() = 0");
+        edge(14, evened, "all 300 in one desk", chain(), "even() = 250", Edges.each(6, "desk(#, 1) = 50"), "even() = 0");
         edge(14, two, "1 more: none goes", with(1), "even() = 0; item(0, 1) = 0");
         edge(14, two, "2 more: one goes", with(1, 2), "even() = 1; item(0, 1) = 1; item(1, 1) = 0");
         edge(14, two, "2 more, but one is crossed", with(1, 2), "cross(1) = 1; even() = 0; count(7) = 0; item(1, 2) = 1");

@@ -10,6 +10,12 @@ import java.util.regex.Pattern;
 public final class EdgesTest {
     private static final int PROMISES = 43;
 
+    /** The call of each promise, by its number. */
+    private static final List<String> CALLS = List.of("", "", "enter", "take", "round", "cross", "uncross", "cut", "rekey", "raise", "meld",
+        "part", "split", "gather", "even", "arc", "unarc", "price", "keep", "again", "key", "item", "desk", "along", "ranked", "least", "below",
+        "keys", "pair", "above", "melding", "taking", "coming", "tagged", "log", "best", "by", "dearer", "without", "cheaper", "second",
+        "center", "arcs", "count");
+
     private static boolean quotes(Edges.Edge e, String sentence) {
         return sentence.contains(e.words());
     }
@@ -47,12 +53,13 @@ public final class EdgesTest {
         while (m.find()) {
             String answer = m.group(2).replace("NONE", "-1").replace("False", "false").replace("NoSuchElementException", "throws")
                 .replace("Long.MIN_VALUE", "" + Long.MIN_VALUE);
-            Check.due("promise " + promise + ", '" + sentence + "': a run has " + call + " answer " + answer, isAnswered(promise, sentence, call, answer), true);
+            boolean found = isAnswered(promise, sentence, call, answer);
+            Check.due("promise " + promise + ", '" + sentence + "': a run has " + call + " answer " + answer, found, true);
             m.region(m.end() - 1, sentence.length());
         }
     }
 
-    private static void compare(Document doc, List<String> calls) {
+    private static void compare(Document doc) {
         for (Edges.Edge e : Edges.all()) {
             Check.due("promise " + e.promise() + ", '" + e.words() + "': the document says it", stands(e, doc), true);
         }
@@ -61,21 +68,16 @@ public final class EdgesTest {
         doc.promises().forEach((promise, sentences) -> {
             for (String s : sentences) {
                 Check.due("promise " + promise + ", '" + s + "' has a run", isTested(promise, s), true);
-                refusals(promise, calls.get(promise), s);
+                refusals(promise, CALLS.get(promise), s);
             }
         });
     }
-
-    /** The call of each promise, by its number. */
-    private static final List<String> CALLS = List.of("", "", "enter", "take", "round", "cross", "uncross", "cut", "rekey", "raise", "meld", "part", "split",
-        "gather", "even", "arc", "unarc", "price", "keep", "again", "key", "item", "desk", "along", "ranked", "least", "below", "keys", "pair", "above",
-        "melding", "taking", "coming", "tagged", "log", "best", "by", "dearer", "without", "cheaper", "second", "center", "arcs", "count");
 
     public static void main(String[] args) throws IOException {
         EdgesOfDoing.all();
         EdgesOfAsking.all();
         EdgesOfArcs.all();
-        if (Document.isThere()) compare(Document.read(), CALLS);
+        if (Document.isThere()) compare(Document.read());
         else System.out.println("the document is not there: its sentences were not looked for");
         System.out.println(Edges.all().size() + " runs");
         Check.end();
