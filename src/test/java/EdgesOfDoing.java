@@ -356,6 +356,8 @@ final class EdgesOfDoing {
         edge(12, told, "all 300 go", chain(), "split(0, 1, 0) = 300; desk(0, 0) = -1; desk(1, 1) = 300; desk(1, 0) = 299");
         edge(12, told, "one tree alone stays: it has none above it", with(1, 2), "item(1, 6) = 0; split(0, 1, 1) = 1; item(1, 6) = -1",
             "item(1, 7) = 0; above(1, 0) = -1");
+        edge(12, told, "one tree alone stays as it stands", with(1), "enter(1, 2, 0) = 1; enter(1, 3, 0) = 2; enter(1, 4, 0) = 3; meld(0, 1) = 1",
+            "split(0, 2, 1) = 1; desk(0, 0) = 1; item(1, 4) = 2; item(1, 5) = 3; item(2, 6) = 1; item(3, 6) = 1; count(4) = 3");
         edge(12, told, "any number: beyond all keys", with(1000000000), "raise(0, 5) = 1; split(0, 1, 1000000004) = -3; split(0, 1, 1000000005) = 1",
             "split(1, 0, MAX) = 1; split(0, 1, MIN) = -3; count(8) = 0");
         edge(12, told, "into a desk that has some", with(10, 20, 30), "enter(1, 5, 0) = 3; split(0, 1, 20) = 2; desk(1, 0) = 3; desk(1, 1) = 3",
