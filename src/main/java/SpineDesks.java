@@ -701,7 +701,7 @@ public final class SpineDesks {
                 left[x] = right[x];
                 right[x] = tree;
             }
-            rank[x] = 1 + Math.min(l, r);
+            rank[x] = 1 + (l < r ? l : r);
         }
 
         /**

@@ -21,6 +21,14 @@ final class Check {
         due(call, got ? 1L : 0L, want ? 1L : 0L);
     }
 
+    static void due(String call, String got, String want) {
+        asked++;
+        if (!got.equals(want)) {
+            wrong++;
+            System.out.println(call + " answered " + got + ", due is " + want);
+        }
+    }
+
     static void dueThrow(String call, Call c) {
         asked++;
         try {

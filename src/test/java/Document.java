@@ -13,10 +13,13 @@ final class Document {
     private static final Path FILE = Path.of("../shared/DOC.md");
     private static final Pattern PROMISE = Pattern.compile("^## Promise (\\d+): (\\w| )+$\\s+`[^`]*`: ([^\\n]*)$", Pattern.MULTILINE);
 
+    private final List<String> face = new ArrayList<>();
     private final List<String> terms = new ArrayList<>();
     private final Map<Integer, List<String>> promises = new TreeMap<>();
 
     private Document(String text) {
+        String open = text.substring(text.indexOf("## The public face"), text.indexOf("## Terms"));
+        for (String line : open.split("\n")) if (line.startsWith("    public ")) face.add(line.trim());
         String part = text.substring(text.indexOf("## Terms") + "## Terms".length(), text.indexOf("## Promise 1:"));
         for (String s : sentences(part.replaceAll("```(text)?", " "))) {
             // headings of parts, not sentences
@@ -37,6 +40,11 @@ final class Document {
     /** A sentence ends with a dot that has neither a dot nor a space ahead of it ("0 .. 5" has no end). */
     private static List<String> sentences(String text) {
         return List.of(text.replaceAll("\\s+", " ").trim().split("(?<=[^ .]\\.) "));
+    }
+
+    /** The lines of the face, each with its ';'. */
+    List<String> face() {
+        return face;
     }
 
     List<String> terms() {

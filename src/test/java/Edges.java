@@ -62,11 +62,15 @@ final class Edges {
     }
 
     private static void run(Edge e) {
+        run("promise " + e.promise() + ", '" + e.words() + "', " + e.which() + ": ", e.rows());
+    }
+
+    /** Does the rows on a new object of the class and on a new model. */
+    static void run(String where, List<String> rows) {
         SpineDesks x = new SpineDesks();
         Model y = new Model();
-        String where = "promise " + e.promise() + ", '" + e.words() + "', " + e.which() + ": ";
-        Check.due(where + "an object has 512 calls at most", e.rows().size() <= CALLS, true);
-        for (String row : e.rows()) {
+        Check.due(where + "an object has 512 calls at most", rows.size() <= CALLS, true);
+        for (String row : rows) {
             String call = callOf(row);
             String due = dueOf(row);
             String before = isRefusal(call, due) ? seen(x) + told(x, due) : "";

@@ -5,7 +5,9 @@ import java.lang.reflect.Method;
 import java.lang.reflect.Modifier;
 import java.nio.file.Files;
 import java.nio.file.Path;
+import java.util.ArrayList;
 import java.util.Arrays;
+import java.util.List;
 import java.util.Set;
 import java.util.TreeSet;
 import java.util.regex.Matcher;
@@ -90,9 +92,24 @@ public final class FaceTest {
         }
     }
 
+    /** Each line of the document's face stands in the code, and none that is public stands there beside them. */
+    private static void asTheDocument(Document doc) throws IOException {
+        List<String> due = new ArrayList<>();
+        for (String line : doc.face()) due.add(line.replaceAll(";$", ""));
+        List<String> found = new ArrayList<>();
+        for (String line : Files.readAllLines(Path.of("src/main/java/SpineDesks.java"))) {
+            if (line.startsWith("    public ")) found.add(line.trim().replaceAll("( \\{|;)$", ""));
+        }
+        Check.due("lines of the face", due.size(), FACE.length + 2);
+        for (String line : due) Check.due("the code has '" + line + "'", found.contains(line), true);
+        for (String line : found) Check.due("the document has '" + line + "'", due.contains(line), true);
+    }
+
     public static void main(String[] args) throws IOException {
         members();
         text();
+        if (Document.isThere()) asTheDocument(Document.read());
+        else System.out.println("the document is not there: its face was not looked at");
         Check.end();
     }
 }
